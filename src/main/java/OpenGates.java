@@ -30,7 +30,6 @@ public final class OpenGates {
     private final Marshal marshal;
     private final Draws draws;
     private final int[] refusals;
-    private int keptImages;
     private int status;
     private int brooms;
     private int fault;
@@ -39,9 +38,6 @@ public final class OpenGates {
     public OpenGates() {
         land = new Land();
         images = new Land[IMAGES];
-        for (int k = 0; k < IMAGES; k++) {
-            images[k] = new Land();
-        }
         tape = new Tape();
         Program program = new Program();
         reader = new Reader(tape, program);
@@ -427,8 +423,10 @@ public final class OpenGates {
         if (!within(k, 0, IMAGES - 1)) {
             return refuse(CANT_BE);
         }
+        if (images[k] == null) {
+            images[k] = new Land();
+        }
         images[k].take(land);
-        keptImages |= 1 << k;
         return settle(0);
     }
 
@@ -436,7 +434,7 @@ public final class OpenGates {
         if (!within(k, 0, IMAGES - 1)) {
             return refuse(CANT_BE);
         }
-        if ((keptImages >> k & 1) == 0) {
+        if (images[k] == null) {
             return refuse(NO_SUCH);
         }
         land.take(images[k]);
@@ -589,7 +587,9 @@ public final class OpenGates {
             System.arraycopy(other.general, 0, general, 0, FORTS);
             System.arraycopy(other.signs, 0, signs, 0, 3 * SIGNS);
             System.arraycopy(other.roads, 0, roads, 0, FORTS * FORTS);
-            System.arraycopy(other.laws, 0, laws, 0, LAWS);
+            for (int i = 0; i < LAWS; i++) {
+                laws[i] = other.laws[i];
+            }
             forts = other.forts;
             prior = other.prior;
             mood = other.mood;
@@ -1122,7 +1122,7 @@ public final class OpenGates {
                     }
                 } else if (step == NOT) {
                     stack[top - 1] = 1 - stack[top - 1];
-                } else if (stack[top - 1] != 0 == (step == OR)) {
+                } else if ((stack[top - 1] != 0) == (step == OR)) {
                     goesOn = value;
                 } else {
                     top--;
@@ -1246,12 +1246,12 @@ public final class OpenGates {
             if (!passes(Tape.TIMES)) {
                 return true;
             }
-            program.repeat(value);
-            boolean good = isNumber(1, MOST_TIMES);
-            if (good) {
-                lookAt(at + 1);
+            if (!isNumber(1, MOST_TIMES)) {
+                return false;
             }
-            return good;
+            program.repeat(value);
+            lookAt(at + 1);
+            return true;
         }
 
         private boolean readIf() {
