@@ -342,6 +342,11 @@ public final class PromisesTest {
         fails(true, "turns 1001", 6);
         fails(true, "turns 99999999999999999999", 6);
         fails(true, "Turns 1", 0);
+        fails(true, "barsz", 0);
+        fails(true, "abars", 0);
+        fails(true, "turns 1{", 7);
+        fails(true, "turns 1`", 7);
+        fails(true, "turns 1:", 7);
         fails(true, "turns 1;", 8);
         fails(true, "turns 1;;bars", 8);
         fails(true, "turns 1 1", 8);
@@ -761,15 +766,20 @@ public final class PromisesTest {
         Check.same("shown", x.of(0, 2), 0);
         Check.same("none", x.undo(), -3);
         Check.same("force stays", x.count(13), NONE);
-        for (int i = 0; i < 17; i++) {
+        for (int i = 0; i < 19; i++) {
             x.man(0, 1);
+            x.show(1, i % 6);
+            x.hide(1, i % 6);
         }
         Check.same("sixteen", x.count(6), 16);
+        int[] deeds = {1, 0, 2};
         for (int i = 0; i < 16; i++) {
-            Check.same("undo", x.undo(), 2);
+            Check.same("undo", x.undo(), deeds[i % 3]);
+            Check.same("men", x.of(0, 0), 49 - (i + 1) / 3);
+            Check.same("shown", x.of(1, 2), i % 3 == 0 ? 1 << (18 - i / 3) % 6 : 0);
         }
         Check.same("no more", x.undo(), -3);
-        Check.same("men", x.of(0, 0), 31);
+        Check.same("men", x.of(0, 0), 44);
         undoingClosed();
     }
 
@@ -988,6 +998,10 @@ public final class PromisesTest {
         rests(9, 0, 4, -3, 1, 1, 0, 1);
         rests(9, -5, 4, -3, 0, 1, -3, 1);
         rests(4, 4, 4, 4, 1, 1, 4, 1);
+        rests(2, 2, 2, 5, 1, 1, 2, 1);
+        rests(2, 3, 2, 9, 1, 1, 2, 1);
+        rests(2, 1, 2, 9, 0, 1, 2, 1);
+        rests(1, 2, 9, 2, 0, 1, 2, 1);
         OpenGates x = new OpenGates();
         int[] wrong = {-100, 100, Integer.MIN_VALUE, Integer.MAX_VALUE};
         for (int value : wrong) {
@@ -1119,6 +1133,15 @@ public final class PromisesTest {
         Check.same("no room", x.counted(5, 0), -5);
         Check.same("can't be ahead of no room", x.counted(5, 10), -1);
         Check.same("what", x.next(2), NONE);
+        x.forget();
+        for (int i = 0; i < 10; i++) {
+            x.fire(i < 9 ? 5 : 6);
+        }
+        x.counted(0, 9);
+        x.counted(1, 1);
+        Check.same("all ten", x.fits(0), 1023);
+        Check.same("ten seen from hill 2", x.next(0), 0);
+        Check.same("one is left", x.next(1), 1);
         Check.same("what", new OpenGates().next(-1), NONE);
     }
 
