@@ -46,29 +46,6 @@ public final class PromisesTest {
         Check.finish();
     }
 
-    private static OpenGates land(int... forts) {
-        OpenGates x = new OpenGates();
-        for (int i = 0; i < forts.length; i += 2) {
-            x.fort(forts[i], forts[i + 1]);
-        }
-        return x;
-    }
-
-    private static OpenGates landUnder(String law, int... forts) {
-        OpenGates x = land(forts);
-        Check.same("law " + law, Texts.law(x, law), 0);
-        Check.same("force", x.force(0), NONE);
-        return x;
-    }
-
-    private static String repeat(String text, int times) {
-        StringBuilder all = new StringBuilder();
-        for (int i = 0; i < times; i++) {
-            all.append(text);
-        }
-        return all.toString();
-    }
-
     private static void aNewObject() {
         Check.about("promise 1");
         OpenGates x = new OpenGates();
@@ -108,7 +85,7 @@ public final class PromisesTest {
 
     private static void ofForts() {
         Check.about("promise 3");
-        OpenGates x = land(7, 3, 99, 0);
+        OpenGates x = Lands.of(7, 3, 99, 0);
         Check.same("men", x.of(0, 0), 7);
         Check.same("general", x.of(0, 1), 3);
         Check.same("shown", x.of(0, 2), 0);
@@ -126,7 +103,7 @@ public final class PromisesTest {
     }
 
     private static void beliefs() {
-        OpenGates x = land(7, 3);
+        OpenGates x = Lands.of(7, 3);
         x.terms(1, 333);
         Check.same("even", x.of(0, 4), 333000);
         x.fame(3, 100);
@@ -176,7 +153,7 @@ public final class PromisesTest {
 
     private static void roads() {
         Check.about("promise 5");
-        OpenGates x = land(1, 0, 2, 0);
+        OpenGates x = Lands.of(1, 0, 2, 0);
         Check.same("first", x.road(0, 1, 99), 0);
         Check.same("both ways", x.road(1, 0, 0), 99);
         Check.same("none", x.road(0, 1, 5), 0);
@@ -205,7 +182,7 @@ public final class PromisesTest {
 
     private static void asking() {
         Check.about("promise 7");
-        OpenGates x = landUnder("pays 100 if sign = 1;pays 0 - 1 if sign = 2;turns 101 if army = 2;"
+        OpenGates x = Lands.under("pays 100 if sign = 1;pays 0 - 1 if sign = 2;turns 101 if army = 2;"
             + "turns 0 - 5 if army = 3;turns 60 if army = 4;bars if sign = 3", 5, 0);
         x.sign(0, 2, 42);
         Check.same("price", x.asks(0, 0, 0), 42);
@@ -374,26 +351,26 @@ public final class PromisesTest {
         fails(true, "bars" + (char) 160, 4);
         fails(true, "turns 1+", 8);
         fails(true, "turns fame", 6);
-        reads(true, "bars" + repeat(";bars", 11));
-        fails(true, "bars" + repeat(";bars", 12), 60);
-        fails(true, "bars" + repeat(";bars", 11) + ";", 60);
-        fails(true, "bars" + repeat(";bars", 11) + ";?", 60);
-        reads(true, "turns 1" + repeat("+1", 49));
-        fails(true, "turns 1" + repeat("+1", 50), 106);
-        fails(true, "turns 1" + repeat("+1", 49) + "+men", 106);
-        fails(true, "turns 1" + repeat("+1", 30) + ";pays 1" + repeat("+1", 20), 7 + 60 + 6 + 2 * 19);
-        reads(true, "turns " + repeat("[", 8) + "1" + repeat("]", 8) + "+[1]");
-        fails(true, "turns " + repeat("[", 9) + "1" + repeat("]", 9), 14);
-        reads(true, "bars if " + repeat("(", 4) + repeat("[", 4) + "1" + repeat("]", 4) + "=1" + repeat(")", 4));
-        fails(true, "bars if " + repeat("(", 4) + repeat("[", 5) + "1" + repeat("]", 5) + "=1" + repeat(")", 4), 16);
-        fails(true, "bars if " + repeat("(", 9) + "1=1" + repeat(")", 9), 16);
-        reads(true, "bars if " + repeat("not ", 90) + "1 = 1");
-        fails(true, "bars if " + repeat("not ", 98), 400);
+        reads(true, "bars" + Texts.repeat(";bars", 11));
+        fails(true, "bars" + Texts.repeat(";bars", 12), 60);
+        fails(true, "bars" + Texts.repeat(";bars", 11) + ";", 60);
+        fails(true, "bars" + Texts.repeat(";bars", 11) + ";?", 60);
+        reads(true, "turns 1" + Texts.repeat("+1", 49));
+        fails(true, "turns 1" + Texts.repeat("+1", 50), 106);
+        fails(true, "turns 1" + Texts.repeat("+1", 49) + "+men", 106);
+        fails(true, "turns 1" + Texts.repeat("+1", 30) + ";pays 1" + Texts.repeat("+1", 20), 7 + 60 + 6 + 2 * 19);
+        reads(true, "turns " + Texts.repeat("[", 8) + "1" + Texts.repeat("]", 8) + "+[1]");
+        fails(true, "turns " + Texts.repeat("[", 9) + "1" + Texts.repeat("]", 9), 14);
+        reads(true, "bars if " + Texts.repeat("(", 4) + Texts.repeat("[", 4) + "1" + Texts.repeat("]", 4) + "=1" + Texts.repeat(")", 4));
+        fails(true, "bars if " + Texts.repeat("(", 4) + Texts.repeat("[", 5) + "1" + Texts.repeat("]", 5) + "=1" + Texts.repeat(")", 4), 16);
+        fails(true, "bars if " + Texts.repeat("(", 9) + "1=1" + Texts.repeat(")", 9), 16);
+        reads(true, "bars if " + Texts.repeat("not ", 90) + "1 = 1");
+        fails(true, "bars if " + Texts.repeat("not ", 98), 400);
     }
 
     private static void lawWords() {
         Check.about("the words of laws");
-        OpenGates x = landUnder("pays fort+10*men if sign=0;pays general if sign=1;pays known if sign=2;"
+        OpenGates x = Lands.under("pays fort+10*men if sign=0;pays general if sign=1;pays known if sign=2;"
             + "pays 0-sign*army*belief*end if sign=3;pays day if sign=4;pays mood if sign=5;"
             + "turns fort+general+known-sign*10", 0, 0, 7, 3);
         x.fame(3, 33);
@@ -404,7 +381,7 @@ public final class PromisesTest {
             Check.same("pays " + sign, x.asks(1, sign, 0), pays[sign]);
         }
         Check.same("turns", x.asks(1, 50, 2), 1 + 3 + 33 + 10);
-        x = landUnder("turns army+belief-end;fame 0-belief/3;fame end*army if end>0", 6, 2);
+        x = Lands.under("turns army+belief-end;fame 0-belief/3;fame end*army if end>0", 6, 2);
         Check.same("belief in hundredths", x.asks(0, 7, 2), 58);
         x.terms(1, 999);
         Check.same("cut", x.asks(0, 7, 2), 100);
@@ -419,7 +396,7 @@ public final class PromisesTest {
 
     /** What a sum is worth as "pays" on top of 50; NONE, where it is BROKEN. */
     private static int worth(String sum) {
-        OpenGates x = landUnder("pays 50+" + sum + ";bars if " + sum + "=" + sum, 5, 2);
+        OpenGates x = Lands.under("pays 50+" + sum + ";bars if " + sum + "=" + sum, 5, 2);
         boolean holds = x.asks(0, 3, 1) == 1;
         return holds ? x.asks(0, 3, 0) - 50 : NOTHING;
     }
@@ -447,7 +424,7 @@ public final class PromisesTest {
     }
 
     private static int isSo(String test) {
-        return landUnder("bars if " + test, 5, 2).asks(0, 3, 1);
+        return Lands.under("bars if " + test, 5, 2).asks(0, 3, 1);
     }
 
     private static void tests() {
@@ -476,13 +453,13 @@ public final class PromisesTest {
         Check.same("not asked, all of them", isSo("1=1 or 1/0=1 or 1%0=1 and 1=1"), 1);
         Check.same("the third", isSo("1=2 or 1=3 or 1=1"), 1);
         Check.same("the third", isSo("1=1 and 1=1 and 1=2"), 0);
-        OpenGates x = landUnder("turns 10;turns 1/0;turns 20 if 1/0 = 0;turns 30 if 1=2", 5, 2);
+        OpenGates x = Lands.under("turns 10;turns 1/0;turns 20 if 1/0 = 0;turns 30 if 1=2", 5, 2);
         Check.same("the last that holds", x.asks(0, 1, 2), 10);
     }
 
     private static void orders() {
         Check.about("promise 14");
-        OpenGates x = land(10, 0, 20, 1);
+        OpenGates x = Lands.of(10, 0, 20, 1);
         Check.same("none of it so", Texts.orders(x, "show 0 at 0 if 1 = 2"), 0);
         Check.same("not refused", x.status(), 0);
         Check.same("as often as told", Texts.orders(x, "man 0 by 2 times 20"), 20);
@@ -512,12 +489,12 @@ public final class PromisesTest {
         Check.same("as it was", x.of(1, 0), 21);
         Check.same("not a text", Texts.orders(x, ""), -6);
         Check.same("fault", x.fault(), 0);
-        Check.same("twelve", Texts.orders(x, "man 0 by 1" + repeat(";man 0 by 1", 11)), 12);
+        Check.same("twelve", Texts.orders(x, "man 0 by 1" + Texts.repeat(";man 0 by 1", 11)), 12);
     }
 
     private static void orderWords() {
         Check.about("the words of orders");
-        OpenGates x = land(10, 2, 0, 1);
+        OpenGates x = Lands.of(10, 2, 0, 1);
         x.fame(2, 7);
         x.terms(0, 5);
         x.show(0, 2);
@@ -567,16 +544,16 @@ public final class PromisesTest {
         fails(false, "show 1 at", 9);
         fails(false, "show 1 at 1;", 12);
         fails(false, "show 1 at 1 or", 12);
-        reads(false, "show 1 at 0 if men 1" + repeat("+men 1", 46) + "=1");
-        fails(false, "show 1 at 0 if men 1" + repeat("+men 1", 46) + "=1+men 9", 15 + 5 + 46 * 6 + 3);
-        reads(false, "show 1 at 0 times 9 if fame 1" + repeat("+1", 46) + "=1");
-        fails(false, "show 1 at 0 times 9 if fame 1" + repeat("+1", 46) + "=1+1", 29 + 92 + 3);
-        fails(false, "man 1 by 0" + repeat(";man 1 by 0", 12), 10 + 11 * 11 + 1);
+        reads(false, "show 1 at 0 if men 1" + Texts.repeat("+men 1", 46) + "=1");
+        fails(false, "show 1 at 0 if men 1" + Texts.repeat("+men 1", 46) + "=1+men 9", 15 + 5 + 46 * 6 + 3);
+        reads(false, "show 1 at 0 times 9 if fame 1" + Texts.repeat("+1", 46) + "=1");
+        fails(false, "show 1 at 0 times 9 if fame 1" + Texts.repeat("+1", 46) + "=1+1", 29 + 92 + 3);
+        fails(false, "man 1 by 0" + Texts.repeat(";man 1 by 0", 12), 10 + 11 * 11 + 1);
     }
 
     private static void ordersUndone() {
         Check.about("orders wholly or not at all");
-        OpenGates x = landUnder("fame 7", 50, 0, 20, 1);
+        OpenGates x = Lands.under("fame 7", 50, 0, 20, 1);
         for (int i = 0; i < 16; i++) {
             x.man(0, i % 2 == 0 ? 1 : -1);
         }
@@ -599,7 +576,7 @@ public final class PromisesTest {
 
     private static void faultAndStopped() {
         Check.about("promises 15, 16");
-        OpenGates x = land(1, 0);
+        OpenGates x = Lands.of(1, 0);
         Texts.orders(x, "march 0 to 0");
         Check.same("stopped", x.stopped(), 0);
         Check.same("fault", x.fault(), NONE);
@@ -619,7 +596,7 @@ public final class PromisesTest {
 
     private static void forces() {
         Check.about("promise 17");
-        OpenGates x = land(1, 0);
+        OpenGates x = Lands.of(1, 0);
         Check.same("none yet", x.force(0), -2);
         Check.same("none", x.force(NONE), NONE);
         Check.same("not refused", x.status(), 0);
@@ -640,7 +617,7 @@ public final class PromisesTest {
 
     private static void showing() {
         Check.about("promise 18");
-        OpenGates x = landUnder("bars if sign = 4;pays 9 if sign = 3", 5, 0, 5, 0);
+        OpenGates x = Lands.under("bars if sign = 4;pays 9 if sign = 3", 5, 0, 5, 0);
         Check.same("price", x.show(0, 0), 1);
         Check.same("as told", x.show(0, 3), 9);
         Check.same("shown already", x.show(0, 3), -3);
@@ -659,7 +636,7 @@ public final class PromisesTest {
 
     private static void hiding() {
         Check.about("promise 19");
-        OpenGates x = landUnder("bars", 5, 0);
+        OpenGates x = Lands.under("bars", 5, 0);
         x.force(NONE);
         x.show(0, 1);
         x.show(0, 5);
@@ -676,7 +653,7 @@ public final class PromisesTest {
 
     private static void manning() {
         Check.about("promise 20");
-        OpenGates x = land(0, 0);
+        OpenGates x = Lands.of(0, 0);
         Check.same("more", x.man(0, 99), 99);
         Check.same("too many", x.man(0, 1), -3);
         Check.same("none more", x.man(0, 0), 99);
@@ -692,7 +669,7 @@ public final class PromisesTest {
 
     private static void marching() {
         Check.about("promise 21");
-        OpenGates x = land(20, 0);
+        OpenGates x = Lands.of(20, 0);
         Check.same("turns", x.march(99, 0), 1);
         x.terms(1, 499);
         Check.same("no more than the fort", x.march(20, 0), 0);
@@ -708,7 +685,7 @@ public final class PromisesTest {
         Check.same("army 100", x.march(100, 0), -1);
         Check.same("army ahead of fort", x.march(100, 3), -1);
         Check.same("no such", x.march(1, 1), -2);
-        x = land(20, 0);
+        x = Lands.of(20, 0);
         x.terms(0, 998);
         Check.same("the last but one day", x.march(1, 0), 1);
         Check.same("the last day", x.march(1, 0), -3);
@@ -717,7 +694,7 @@ public final class PromisesTest {
     }
 
     private static void marchingFame() {
-        OpenGates x = landUnder("fame men*day+known if end=0;fame 21 if end=1;fame 0-21 if end=2", 12, 3);
+        OpenGates x = Lands.under("fame men*day+known if end=0;fame 21 if end=1;fame 0-21 if end=2", 12, 3);
         x.fame(3, 90);
         x.march(1, 0);
         Check.same("at most 20, at most 100", x.count(20), 100);
@@ -728,7 +705,7 @@ public final class PromisesTest {
         Check.same("by men as they are then", x.count(20), 1 + 20);
         x.march(99, 0);
         Check.same("at least -20", x.count(20), 1);
-        x = landUnder("fame men+known-48-day*2", 12, 3);
+        x = Lands.under("fame men+known-48-day*2", 12, 3);
         x.terms(1, 0);
         x.march(12, 0);
         Check.same("men 8, fame 50, day 0", x.count(20), 60);
@@ -739,7 +716,7 @@ public final class PromisesTest {
 
     private static void undoing() {
         Check.about("promise 22");
-        OpenGates x = landUnder("fame 9", 30, 0, 30, 0);
+        OpenGates x = Lands.under("fame 9", 30, 0, 30, 0);
         Check.same("none", x.undo(), -3);
         x.show(0, 1);
         x.hide(0, 1);
@@ -785,7 +762,7 @@ public final class PromisesTest {
 
     private static void undoingClosed() {
         for (int by = 0; by < 5; by++) {
-            OpenGates x = land(5, 0);
+            OpenGates x = Lands.of(5, 0);
             x.show(0, 1);
             refusedChange(x, by);
             Check.same("refused, " + by, x.count(6), 1);
@@ -794,7 +771,7 @@ public final class PromisesTest {
             Check.same("undo", x.undo(), -3);
             Check.same("shown", x.of(0, 2), 2);
         }
-        OpenGates x = land(5, 0);
+        OpenGates x = Lands.of(5, 0);
         Texts.orders(x, "show 1 at 0;man 0 by 1 times 3");
         Check.same("by orders", x.count(6), 4);
         Check.same("by orders", x.undo(), 2);
@@ -827,7 +804,7 @@ public final class PromisesTest {
 
     private static void bluffs() {
         Check.about("promise 23");
-        OpenGates x = land(5, 0);
+        OpenGates x = Lands.of(5, 0);
         Check.same("turns by nothing", x.bluff(0, 9, 0), 0);
         Check.same("turns by nothing", x.bluff(0, 9, 1), 0);
         x.terms(1, 400);
@@ -863,7 +840,7 @@ public final class PromisesTest {
     }
 
     private static void bluffsByLaw() {
-        OpenGates x = landUnder("bars if sign<2;pays 5-sign;turns 80;turns belief if belief<60;turns 100 if army=50", 5, 0);
+        OpenGates x = Lands.under("bars if sign<2;pays 5-sign;turns 80;turns belief if belief<60;turns 100 if army=50", 5, 0);
         x.fame(0, 100);
         x.terms(1, 700);
         x.sign(0, 0, 9);
@@ -878,7 +855,7 @@ public final class PromisesTest {
         x.show(0, 1);
         x.force(0);
         Check.same("shown already is not barred", x.bluff(0, 9, 1), 0);
-        x = landUnder("bars if sign<2;pays 5-sign;turns 80", 5, 0);
+        x = Lands.under("bars if sign<2;pays 5-sign;turns 80", 5, 0);
         x.fame(0, 100);
         x.terms(1, 700);
         x.sign(0, 0, 9);
@@ -896,7 +873,7 @@ public final class PromisesTest {
 
     private static void scouts() {
         Check.about("promise 24");
-        OpenGates x = land(5, 1);
+        OpenGates x = Lands.of(5, 1);
         Check.same("all alike: the lowest", x.scout(0, 0), 0);
         Check.same("by nothing", x.scout(0, 1), 0);
         x.sign(3, 0, 8);
@@ -920,7 +897,7 @@ public final class PromisesTest {
 
     private static void holding() {
         Check.about("promise 25");
-        OpenGates x = land(39, 0, 8, 0, 9, 0);
+        OpenGates x = Lands.of(39, 0, 8, 0, 9, 0);
         Check.same("all turn", x.holds(0, 30), 1000000000000L);
         x.terms(1, 0);
         Check.same("four of ten", x.holds(0, 1), 400000000000L);
@@ -947,7 +924,7 @@ public final class PromisesTest {
 
     private static void retreats() {
         Check.about("promise 26");
-        OpenGates x = land(5, 0, 5, 0, 5, 0, 5, 0, 5, 0);
+        OpenGates x = Lands.of(5, 0, 5, 0, 5, 0, 5, 0, 5, 0);
         Check.same("no way", x.retreat(0, 4, NONE), NONE);
         Check.same("no way", x.retreat(0, 4, 0), NONE);
         x.road(0, 3, 2);
@@ -1213,7 +1190,7 @@ public final class PromisesTest {
 
     private static void images() {
         Check.about("promises 39, 40");
-        OpenGates x = landUnder("turns 33", 10, 1, 20, 2);
+        OpenGates x = Lands.under("turns 33", 10, 1, 20, 2);
         Check.same("k", x.image(2), -1);
         Check.same("k", x.image(-1), -1);
         Check.same("k", x.back(2), -1);
@@ -1288,7 +1265,7 @@ public final class PromisesTest {
 
     private static void counts() {
         Check.about("promise 41");
-        OpenGates x = land(9, 0, 9, 1, 9, 2);
+        OpenGates x = Lands.of(9, 0, 9, 1, 9, 2);
         x.terms(1, 1);
         x.march(99, 1);
         x.march(99, 2);

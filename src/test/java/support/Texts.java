@@ -3,6 +3,14 @@ final class Texts {
     private Texts() {
     }
 
+    static String repeat(String text, int times) {
+        StringBuilder all = new StringBuilder();
+        for (int i = 0; i < times; i++) {
+            all.append(text);
+        }
+        return all.toString();
+    }
+
     static int word(String text, int at) {
         int word = 0;
         for (int i = at; i < at + 4; i++) {
