@@ -442,6 +442,7 @@ public final class CallsEdgesTest {
         }
         Check.same("as it was", x.count(13), 0);
         Check.same("0 to none", x.force(NONE), 0);
+        Check.same("is not REFUSED", x.status(), 0);
         Check.same("none", x.count(13), NONE);
     }
 

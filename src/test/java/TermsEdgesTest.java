@@ -336,6 +336,17 @@ public final class TermsEdgesTest {
         Check.same("just as many", x.march(99, 0), 1);
         x.terms(1, 499);
         Check.same("less", x.march(99, 0), 2);
+        x = Lands.of(5, 0);
+        x.fame(0, 1);
+        x.sign(0, 0, 7);
+        x.sign(0, 1, 8);
+        x.sign(1, 0, 9);
+        x.sign(1, 1, 8);
+        x.show(0, 0);
+        x.show(0, 1);
+        // 63 : 64 by one of a hundred
+        Check.same("49.996 hundredths", x.of(0, 4), 499960);
+        Check.same("a little less", x.march(99, 0), 2);
     }
 
     private static int fameBehind(String law, int fame, int prior, int army) {
@@ -506,7 +517,14 @@ public final class TermsEdgesTest {
         rest("III. the first by rows: the second entry", new int[] {5, 3, 9, 2}, 1, 1, 3, 1);
         rest("III. the first by rows: the third entry", new int[] {2, 9, 3, 4}, 0, 1, 3, 1);
         rest("III. the first by rows: the fourth entry", new int[] {9, 1, 4, 3}, 0, 1, 3, 1);
-        rest("III. the first by rows: in both rows", new int[] {3, 3, 3, 3}, 1, 1, 3, 1);
+        rest("III. the least of its row, alike: the first", new int[] {3, 3, 1, 9}, 1, 1, 3, 1);
+        rest("III. the greatest of its column, alike: the first", new int[] {3, 5, 3, 9}, 1, 1, 3, 1);
+        rest("III. the least of its row, alike: the second", new int[] {3, 3, 9, 1}, 1, 1, 3, 1);
+        rest("III. the greatest of its column, alike: the second", new int[] {5, 3, 9, 3}, 1, 1, 3, 1);
+        rest("III. the least of its row, alike: the third", new int[] {1, 9, 3, 3}, 0, 1, 3, 1);
+        rest("III. the greatest of its column, alike: the third", new int[] {3, 1, 3, 9}, 0, 1, 3, 1);
+        rest("III. the least of its row, alike: the fourth", new int[] {9, 1, 3, 3}, 0, 1, 3, 1);
+        rest("III. the greatest of its column, alike: the fourth", new int[] {1, 3, 9, 3}, 0, 1, 3, 1);
         rest("III. what is below turned to be above 0", new int[] {-99, 99, 99, -99}, 1, 2, 0, 1);
         rest("III. what is below turned, worth below 0", new int[] {-9, 1, 3, -4}, 7, 17, -33, 17);
         rest("III. lowest terms", new int[] {8, 2, 0, 6}, 1, 2, 4, 1);
@@ -539,6 +557,16 @@ public final class TermsEdgesTest {
         x.siege(0, 0, 0);
         Check.same("all alike: careful", x.career(0, 1), 0);
         Check.same("all alike: careful", x.career(0, 2), 0);
+        x = new OpenGates();
+        x.siege(5, 1, 9);
+        x.siege(1, 1, 3);
+        x.siege(1, 1, 9);
+        // Bold, careful, bold: 9 - 1 + 9.
+        int[] row = {1, 0, 1};
+        for (int k = 0; k < 3; k++) {
+            Check.same("siege " + k, x.career(1, 1 + k), row[k]);
+        }
+        Check.same("the most", x.career(1, 0), 17);
         Check.about("III. through SIEGES in order, none");
         Check.same("nothing", new OpenGates().career(10, 0), 0);
         Check.about("III. the most together, of eight");
@@ -622,6 +650,16 @@ public final class TermsEdgesTest {
         x.counted(4, 9);
         Check.same("none is FITTING", x.next(0), NONE);
         Check.same("none is FITTING", x.next(1), NONE);
+        x.forget();
+        x.fire(62);
+        Check.same("alike from 1 on: the lowest of these", x.next(0), 1);
+        x.forget();
+        for (int i = 0; i < 10; i++) {
+            x.fire(i == 0 ? 3 : 2);
+        }
+        x.counted(0, 1);
+        Check.same("hill 1 sees from one to ten", x.next(0), 1);
+        Check.same("five or six of ten, the first among them", x.next(1), 126);
     }
 
     private static void draws() {
@@ -681,6 +719,10 @@ public final class TermsEdgesTest {
         Check.same("no broom", x.brooms(), 0);
         Check.about("IV. one within which the TAPE ends");
         Check.same("one byte", row(x, 5), 0);
+        Check.same("a broom", x.brooms(), 1);
+        x.feed(0, 0, 0, 0, 0);
+        x.end(1);
+        Check.same("one byte, whatever stood behind it", x.row(), 0);
         Check.same("a broom", x.brooms(), 1);
         Check.same("three bytes", row(x, 5, 1, 5), 1);
         Check.same("a broom", x.brooms(), 1);
@@ -750,14 +792,21 @@ public final class TermsEdgesTest {
         x.image(0);
         for (int i = 0; i < 10; i++) {
             x.fort(98, 3);
-            x.fire(63);
-            x.siege(1, 1, 1);
+            x.fire(62);
+            x.siege(1, 1, 5);
             x.counted(1, 1);
             Texts.law(x, "turns 1");
         }
         x.force(5);
         x.road(0, 1, 9);
+        x.road(5, 4, 8);
         x.show(0, 0);
+        x.fame(3, 4);
+        x.terms(2, 9);
+        for (int what = 0; what < 3; what++) {
+            x.sign(0, what, 3);
+            x.sign(5, what, 3);
+        }
         x.terms(1, 0);
         Check.same("taken", x.march(99, 0), 2);
         x.needs(1, 9);
@@ -770,6 +819,13 @@ public final class TermsEdgesTest {
         Check.same("force", x.force(0), -2);
         Check.same("no law in force", x.count(13), NONE);
         Check.same("prior", x.terms(1, 500), 500);
+        Check.same("mood", x.terms(2, 0), 0);
+        Check.same("fame", x.count(20), 50);
+        int[] first = {5, 5, 1};
+        for (int what = 0; what < 3; what++) {
+            Check.same("sign 0", x.sign(0, what, 0), first[what]);
+            Check.same("sign 5", x.sign(5, what, 0), first[what]);
+        }
         Check.same("fort", x.fort(2, 2), 0);
         Check.same("fort", x.fort(3, 2), 1);
         Check.same("nothing shown", x.of(0, 2), 0);
@@ -778,7 +834,8 @@ public final class TermsEdgesTest {
         Check.same("needs", x.needs(1, 1), 0);
         Check.same("fire", x.fire(0), 0);
         Check.same("the old fires are not seen", x.enough(0), NONE);
-        Check.same("siege", x.siege(0, 0, 0), 0);
+        Check.same("siege", x.siege(0, 9, 0), 0);
+        Check.same("siege", x.siege(9, 9, 9), 1);
         Check.same("counted", x.counted(0, 0), 1);
         Check.same("law", Texts.law(x, "turns 7"), 0);
         x.back(1);
@@ -788,6 +845,19 @@ public final class TermsEdgesTest {
         }
         Check.same("force", x.count(13), 5);
         Check.same("the law as it was", x.asks(0, 9, 2), 1);
+        x.force(0);
+        Check.same("the first law as it was", x.asks(0, 9, 2), 1);
         Check.same("road", x.road(1, 0, 9), 9);
+        Check.same("road", x.road(4, 5, 8), 8);
+        Check.same("general", x.of(0, 1), 3);
+        Check.same("fame", x.count(20), 4);
+        Check.same("mood", x.count(16), 9);
+        Check.same("what was counted from hill 1", x.fits(NONE), 10);
+        // Bold and careful by turns.
+        Check.same("the sieges", x.career(1, 0), 4 * 5 - 4);
+        for (int what = 0; what < 3; what++) {
+            Check.same("sign 0", x.sign(0, what, 0), 3);
+            Check.same("sign 5", x.sign(5, what, 0), 3);
+        }
     }
 }

@@ -76,6 +76,7 @@ public final class TextsEdgesTest {
         fails(LAW, "@Bars");
         fails(LAW, "bars@`");
         fails(LAW, "bars@{");
+        fails(LAW, "@barsz");
         fails(LAW, "bars@Z");
         Check.about("II. of digits");
         fails(LAW, "turns 1 @2");
@@ -415,6 +416,13 @@ public final class TextsEdgesTest {
         x = Lands.under("turns 0", 5, 2);
         x.terms(1, 0);
         Check.same("0 of 0", x.asks(0, 9, 3), 1);
+        x = Lands.under("turns 1000", 5, 2);
+        x.terms(1, 1000);
+        Check.same("100 of 1000: the nearest", x.asks(0, 9, 3), 1);
+        Check.same("and so it does", x.march(99, 0), 1);
+        x = Lands.under("turns belief if army<50;turns belief+1 if army>49", 5, 2);
+        Check.same("as many as BELIEF has", x.asks(0, 49, 3), 1);
+        Check.same("one more", x.asks(0, 50, 3), 0);
         x = Lands.under("turns 1", 5, 2);
         x.terms(1, 9);
         Check.same("0.9 of 1", x.asks(0, 9, 3), 0);
@@ -527,6 +535,16 @@ public final class TextsEdgesTest {
         Check.same("men", x.of(0, 0), 39);
         Check.same("fame 3", Texts.orders(x, "man 0 by fame 3"), 1);
         Check.same("men", x.of(0, 0), 46);
+        x.fame(0, 11);
+        Check.same("fame 0", Texts.orders(x, "man 0 by fame 0"), 1);
+        Check.same("men", x.of(0, 0), 57);
+        Check.about("II. \"day\"");
+        x.terms(0, 999);
+        Check.same("the last", Texts.orders(x, "man 0 by day-990"), 1);
+        Check.same("men", x.of(0, 0), 66);
+        x.terms(0, 0);
+        Check.same("each march tells the next", Texts.orders(x, "man 0 by 1 if day=0;march 1 to 1;man 0 by day*5"), 3);
+        Check.same("men", x.of(0, 0), 72);
     }
 
     private static void doneAndLatest() {
