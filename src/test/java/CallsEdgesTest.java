@@ -548,6 +548,7 @@ public final class CallsEdgesTest {
         Check.same("men", x.of(0, 0), 30);
         Check.same("hide", x.undo(), 1);
         Check.same("shown", x.of(0, 2), 8);
+        Check.same("not taken by that", x.of(0, 3), 0);
         Check.same("show", x.undo(), 0);
         Check.same("shown", x.of(0, 2), 0);
         Check.same("none", x.undo(), -3);
@@ -560,6 +561,8 @@ public final class CallsEdgesTest {
         Check.same("16 still", x.count(6), 16);
         for (int i = 0; i < 16; i++) {
             Check.same("undo", x.undo(), 2);
+            Check.same("men", x.of(0, 0), 46 - i);
+            Check.same("men", x.of(1, 0), 30);
         }
         Check.same("the 17th from the end is not kept", x.undo(), -3);
         Check.same("men", x.of(0, 0), 31);

@@ -567,6 +567,7 @@ public final class TermsEdgesTest {
             Check.same("siege " + k, x.career(1, 1 + k), row[k]);
         }
         Check.same("the most", x.career(1, 0), 17);
+        careerByName();
         Check.about("III. through SIEGES in order, none");
         Check.same("nothing", new OpenGates().career(10, 0), 0);
         Check.about("III. the most together, of eight");
@@ -578,6 +579,28 @@ public final class TermsEdgesTest {
         Check.same("seven careful", x.career(3, 0), 999 - 693);
         Check.same("then bold", x.career(3, 8), 1);
         Check.same("never enough", x.career(2, 0), -8 * 99);
+    }
+
+    private static void careerByName() {
+        Check.about("III. NAME is 0 then: what is done next");
+        OpenGates x = new OpenGates();
+        x.siege(99, 0, 9);
+        x.siege(1, 1, 9);
+        Check.same("bold", x.career(10, 1), 1);
+        Check.same("careful, without a NAME", x.career(10, 2), 0);
+        Check.same("9 - 1", x.career(10, 0), 8);
+        Check.about("III. NAME is one more: what is done next");
+        x = new OpenGates();
+        x.siege(0, 10, 99);
+        x.siege(1, 2, 9);
+        Check.same("careful", x.career(0, 1), 0);
+        Check.same("careful, 1 is less than 2", x.career(0, 2), 0);
+        Check.same("bold, 2 is enough", x.career(1, 2), 1);
+        Check.about("III. through SIEGES in order, fewer than there were");
+        x.forget();
+        x.siege(0, 0, 5);
+        Check.same("that alone", x.career(10, 0), 5);
+        Check.same("that alone", x.career(0, 0), 5);
     }
 
     private static void enough() {
@@ -601,6 +624,13 @@ public final class TermsEdgesTest {
         x.fire(32);
         x.fire(32);
         Check.same("the lowest of those that are seen", x.enough(1), 2);
+        x.forget();
+        x.needs(0, 1);
+        x.fire(1);
+        x.fire(32);
+        x.fire(33);
+        Check.same("the fewest, though others are lower", x.enough(1), 4);
+        Check.same("one", x.enough(0), 1);
     }
 
     private static void fitting() {
@@ -660,6 +690,15 @@ public final class TermsEdgesTest {
         x.counted(0, 1);
         Check.same("hill 1 sees from one to ten", x.next(0), 1);
         Check.same("five or six of ten, the first among them", x.next(1), 126);
+        x.forget();
+        for (int i = 0; i < 10; i++) {
+            x.fire(i == 0 ? 6 : 3);
+        }
+        x.counted(0, 9);
+        x.counted(2, 1);
+        Check.same("all ten: hill 1 sees as many", x.fits(0), 1023);
+        Check.same("the lowest", x.next(0), 0);
+        Check.same("one is left", x.next(1), 1);
     }
 
     private static void draws() {
@@ -783,6 +822,11 @@ public final class TermsEdgesTest {
         Check.same("the other one", x.of(0, 0), 6);
         x.back(0);
         Check.same("the latest of that number", x.of(0, 0), 15);
+        x = Lands.of(1, 0, 1, 0, 1, 0, 1, 0, 1, 0, 1, 0);
+        x.image(0);
+        x.road(4, 5, 7);
+        x.back(0);
+        Check.same("a road that came later", x.road(4, 5, 1), 0);
         imageOfAnEmptyLand();
     }
 

@@ -65,6 +65,16 @@ public final class TextsEdgesTest {
         fails(LAW, blanks + " @bar");
         fails(LAW, "@" + Texts.repeat("x", 400));
         fails(ORDERS, "@" + Texts.repeat(";", 400));
+        Check.about("II. each TEXT has all the room, however many were read");
+        OpenGates x = Lands.of(0, 0);
+        String long50 = "man 0 by 1 if 1" + Texts.repeat("+1", 45) + "=46";
+        for (int i = 1; i <= 40; i++) {
+            Check.same("orders", Texts.orders(x, long50), 1);
+            Check.same("men", x.of(0, 0), i);
+        }
+        Check.same("a law behind them", Texts.law(x, "turns 1" + Texts.repeat("+1", 49)), 0);
+        x.force(0);
+        Check.same("fifty ones", x.asks(0, 9, 2), 50);
     }
 
     private static void tokens() {
@@ -90,6 +100,7 @@ public final class TextsEdgesTest {
         fails(LAW, "bars if 1<@=2");
         fails(LAW, "bars@" + (char) 0);
         fails(LAW, "bars@" + (char) 255);
+        fails(LAW, "turns @" + (char) 255);
         fails(LAW, "bars@_");
         Check.about("II. any blanks (32) between");
         reads(LAW, "  turns   1   +   2   ;   bars   ");
@@ -635,6 +646,21 @@ public final class TextsEdgesTest {
         ends("man 0 by 1;man 0 by 1 times 20;show 0 at 1000;man 0 by 1", 6);
         ends("man 0 by 9 times 20", 4);
         ends("man 0 by 0;man 0 by 0;man 0 by 0;man 0 by 0;man 0 by 0;man 0 by 0;man 0 by 0;man 9 by 0", 11);
+        Check.about("II. all is as it was ahead of it: what can be undone");
+        OpenGates y = Lands.of(9, 0, 9, 1);
+        for (int i = 0; i < 16; i++) {
+            y.man(i % 2, i + 1);
+        }
+        Check.same("more than are kept", Texts.orders(y, "man 0 by 0-1 times 20;show 9 at 9"), -3);
+        Check.same("sixteen", y.count(6), 16);
+        for (int i = 15; i >= 0; i--) {
+            int before = y.of(i % 2, 0);
+            Check.same("undo", y.undo(), 2);
+            Check.same("men", y.of(i % 2, 0), before - i - 1);
+        }
+        Check.same("men", y.of(0, 0), 9);
+        Check.same("men", y.of(1, 0), 9);
+        Check.about("II. all is as it was ahead of it");
         OpenGates x = Lands.unbelieved(9, 0);
         Check.same("taken by it, then another march", Texts.orders(x, "march 10 to 0 times 2"), -3);
         Check.same("not taken", x.of(0, 3), 0);
