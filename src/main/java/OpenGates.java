@@ -1002,7 +1002,7 @@ public final class OpenGates {
         static final int TEST = 2;
         static final int STOP = 3;
         static final int STACK = 64;
-        static final int BROKEN = Integer.MIN_VALUE;
+        static final int BROKEN = 1 << 31;
 
         static final int PUSH = 0;
         static final int LOOK = 1;

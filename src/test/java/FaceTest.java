@@ -28,6 +28,10 @@ public final class FaceTest {
     private static final String[] NOT_THERE = {"throw", "throws", "try", "catch", "synchronized", "assert", "var",
         "Object", "System.out", "Math.random", "hashCode", "toString", "native", "volatile", "Thread"};
 
+    // What of rule 4 the class uses.
+    private static final Set<String> LIBRARY = Set.of("Integer.bitCount", "Math.abs", "Math.max", "Math.min",
+        "System.arraycopy", "Arrays.copyOf", "Arrays.fill");
+
     public static void main(String[] args) throws Exception {
         face();
         nested();
@@ -108,6 +112,10 @@ public final class FaceTest {
         Matcher imports = Pattern.compile("import ([^;]*);").matcher(code);
         while (imports.find()) {
             Check.isTrue("import " + imports.group(1), imports.group(1).equals("java.util.Arrays"));
+        }
+        Matcher calls = Pattern.compile("\\b(Integer|Long|Math|System|Arrays|String|StringBuilder)\\.(\\w+)").matcher(code);
+        while (calls.find()) {
+            Check.isTrue("library: " + calls.group(), LIBRARY.contains(calls.group()));
         }
         Check.isTrue("no sign beyond 127", text.chars().allMatch(c -> c < 128));
         shortMethods(text.split("\n"));
